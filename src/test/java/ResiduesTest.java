@@ -1,0 +1,184 @@
+/** Promises 14 to 21. */
+public final class ResiduesTest {
+    private static final int[] THREE = {2, 0, 1};
+    private static final int[] FOUR = {2, 0, 3, 1};
+    private static final Class<IndexOutOfBoundsException> NO_PLACE = IndexOutOfBoundsException.class;
+    private static final Class<ArithmeticException> ZERO = ArithmeticException.class;
+
+    private ResiduesTest() {
+    }
+
+    public static void main(String[] args) {
+        for (double x : Clocks.set()) {
+            for (double y : Clocks.divisors()) {
+                promise14Residue(x, y);
+                promise17Many(x, y);
+                promise19Power(x, y);
+                promise20Inverse(x, y);
+                promise21Order(x, y);
+                for (double z : Clocks.some()) {
+                    promise15Plus(x, z, y);
+                    promise16Minus(x, z, y);
+                    promise18Product(x, z, y);
+                }
+            }
+        }
+        allOnOnePlace();
+        namedEdges();
+        refusals();
+        powerRefuses();
+        inverseRefuses();
+        Check.end(ResiduesTest.class);
+    }
+
+    private static void left(String what, Nearestclock clock, long got, double due) {
+        if (got != Oracle.bits(due) || clock.bits(11) != got) {
+            Check.same(what, got, Oracle.bits(due));
+            Check.same("kept by " + what, clock.bits(11), Oracle.bits(due));
+        }
+        Check.isTrue(what, got == Oracle.bits(due));
+    }
+
+    private static void promise14Residue(double x, double y) {
+        Nearestclock clock = Clocks.of(x, y);
+        left("residue", clock, clock.residue(11, 0, 1), Oracle.residue(Oracle.eighths(x), y));
+    }
+
+    private static void promise15Plus(double x, double z, double y) {
+        Nearestclock clock = Clocks.of(x, y, z);
+        left("plus", clock, clock.plus(11, 0, 2, 1), Oracle.residue(Oracle.eighths(x + z), y));
+    }
+
+    private static void promise16Minus(double x, double z, double y) {
+        Nearestclock clock = Clocks.of(x, y, z);
+        left("minus", clock, clock.minus(11, 0, 2, 1), Oracle.residue(Oracle.eighths(x - z), y));
+    }
+
+    private static void promise17Many(double x, double y) {
+        Nearestclock clock = Clocks.of(x, y);
+        int[] often = {0, 1, -1, 2, -2, 7, 127, 128, -1000, 16909320, Integer.MAX_VALUE, Integer.MIN_VALUE};
+        for (int times : often) {
+            left("many", clock, clock.many(11, times, 0, 1), Oracle.residue((long) times * Oracle.eighths(x), y));
+        }
+    }
+
+    private static void promise18Product(double x, double z, double y) {
+        Nearestclock clock = Clocks.of(x, y, z);
+        double due = Oracle.residue((long) Oracle.eighths(x) * Oracle.eighths(z), y);
+        left("product", clock, clock.product(11, 0, 2, 1), due);
+    }
+
+    private static void promise19Power(double x, double y) {
+        Nearestclock clock = Clocks.of(x, y);
+        for (int exponent = 0; exponent < 8; exponent++) {
+            left("power", clock, clock.power(11, 0, exponent, 1), Oracle.power(x, exponent, y));
+        }
+        if (Oracle.eighths(x) % 7 == 0) {
+            left("power 999", clock, clock.power(11, 0, 999, 1), Oracle.power(x, 999, y));
+            left("power 1000", clock, clock.power(11, 0, 1000, 1), Oracle.power(x, 1000, y));
+        }
+    }
+
+    private static void promise20Inverse(double x, double y) {
+        Nearestclock clock = Clocks.of(x, y);
+        Double due = Oracle.inverse(x, y);
+        if (due == null) {
+            Check.refusedBy(clock, "inverse of " + x + " by " + y, ZERO, c -> c.inverse(11, 0, 1));
+        } else {
+            left("inverse of " + x + " by " + y, clock, clock.inverse(11, 0, 1), due);
+        }
+    }
+
+    private static void promise21Order(double x, double y) {
+        Check.same("order of " + x + " by " + y, Clocks.of(x, y).order(0, 1), Oracle.order(x, y));
+    }
+
+    /** The place to put into may be x's, z's and y's as well. */
+    private static void allOnOnePlace() {
+        for (double x : Clocks.some()) {
+            if (x != 0) {
+                long one = Oracle.bits(Oracle.residue(1, x));
+                Check.same("residue on one place", Clocks.of(x).residue(0, 0, 0), 0);
+                Check.same("plus on one place", Clocks.of(x).plus(0, 0, 0, 0), 0);
+                Check.same("minus on one place", Clocks.of(x).minus(0, 0, 0, 0), 0);
+                Check.same("many on one place", Clocks.of(x).many(0, -3, 0, 0), 0);
+                Check.same("product on one place", Clocks.of(x).product(0, 0, 0, 0), 0);
+                Check.same("power 0 on one place", Clocks.of(x).power(0, 0, 0, 0), one);
+                Check.same("order on one place", Clocks.of(x).order(0, 0), 1);
+            }
+            for (double y : Clocks.divisors()) {
+                intoOneOfTheTwo(x, y);
+            }
+        }
+    }
+
+    private static void intoOneOfTheTwo(double x, double y) {
+        int eighths = Oracle.eighths(x);
+        for (int to = 0; to < 2; to++) {
+            Check.same("residue into one of two", Clocks.of(x, y).residue(to, 0, 1), Oracle.bits(Oracle.residue(eighths, y)));
+            Check.same("plus into one of two", Clocks.of(x, y).plus(to, 0, 0, 1), Oracle.bits(Oracle.residue(2 * eighths, y)));
+            Check.same("product into one of two", Clocks.of(x, y).product(to, 0, 1, 1), 0);
+            Check.same("minus into one of two", Clocks.of(x, y).minus(to, 1, 0, 1), Oracle.bits(Oracle.residue(-eighths, y)));
+            Check.same("power into one of two", Clocks.of(x, y).power(to, 0, 5, 1), Oracle.bits(Oracle.power(x, 5, y)));
+            if (Oracle.inverse(x, y) != null) {
+                Check.same("inverse into one of two", Clocks.of(x, y).inverse(to, 0, 1), Oracle.bits(Oracle.inverse(x, y)));
+            }
+        }
+    }
+
+    /** Half of y is a residue above 0 and none below; a 0 is the plain one; one eighth by one eighth is 0. */
+    private static void namedEdges() {
+        for (double y : new double[] {1, -1}) {
+            Check.same("residue of half", Clocks.of(0.5, y).residue(2, 0, 1), Oracle.bits(0.5));
+            Check.same("residue of half below", Clocks.of(-0.5, y).residue(2, 0, 1), Oracle.bits(0.5));
+            Check.same("residue of the 0 below", Clocks.of(-0.0, y).residue(0, 0, 1), 0);
+            Check.same("residue of -3", Clocks.of(-3, y).residue(0, 0, 1), 0);
+            Check.same("plus of two 0s below", Clocks.of(-0.0, y).plus(0, 0, 0, 1), 0);
+            Check.same("0 times -5", Clocks.of(-5, y).many(0, 0, 0, 1), 0);
+        }
+        Check.same("power 0 of 0", Clocks.of(0, 5 / 8.0).power(2, 0, 0, 1), Oracle.bits(1 / 8.0));
+        Check.same("power 0 by one eighth", Clocks.of(3, -1 / 8.0).power(2, 0, 0, 1), 0);
+        Check.same("inverse of 0 by one eighth", Clocks.of(-0.0, 1 / 8.0).inverse(2, 0, 1), 0);
+        Check.same("inverse of one eighth by two", Clocks.of(1 / 8.0, 2 / 8.0).inverse(2, 0, 1), Oracle.bits(1 / 8.0));
+        Check.same("order of one eighth by 127", Clocks.of(1 / 8.0, -127 / 8.0).order(0, 1), 127);
+        Check.same("order of 0", Clocks.of(-0.0, 127 / 8.0).order(0, 1), 1);
+    }
+
+    private static void refusals() {
+        refusals("residue", THREE, (c, p) -> c.residue(p[0], p[1], p[2]));
+        refusals("plus", FOUR, (c, p) -> c.plus(p[0], p[1], p[2], p[3]));
+        refusals("minus", FOUR, (c, p) -> c.minus(p[0], p[1], p[2], p[3]));
+        refusals("many", THREE, (c, p) -> c.many(p[0], 3, p[1], p[2]));
+        refusals("product", FOUR, (c, p) -> c.product(p[0], p[1], p[2], p[3]));
+        refusals("power", THREE, (c, p) -> c.power(p[0], p[1], 3, p[2]));
+        refusals("inverse", THREE, (c, p) -> c.inverse(p[0], p[1], p[2]));
+        refusals("order", new int[] {0, 1}, (c, p) -> c.order(p[0], p[1]));
+    }
+
+    private static void refusals(String what, int[] good, Check.Call call) {
+        Check.refusesNoPlaces(what, good, call);
+        Check.refusesZero(what, good, call);
+    }
+
+    private static void powerRefuses() {
+        for (int exponent : new int[] {-1, 1001, Integer.MIN_VALUE, Integer.MAX_VALUE}) {
+            Class<IllegalArgumentException> due = IllegalArgumentException.class;
+            String what = "power " + exponent;
+            Check.refused(what, due, c -> c.power(2, 0, exponent, 1));
+            Check.refused(what + " by 0", due, c -> c.power(2, 0, exponent, Clocks.ZERO));
+            Check.refused(what + " by the 0 below", due, c -> c.power(2, 0, exponent, Clocks.ZERO_BELOW));
+            Check.refused(what + " into no place", NO_PLACE, c -> c.power(12, 0, exponent, 1));
+            Check.refused(what + " of no place", NO_PLACE, c -> c.power(2, -1, exponent, 1));
+            Check.refused(what + " by no place", NO_PLACE, c -> c.power(2, 0, exponent, 12));
+        }
+        Check.refused("power 0 by 0", ZERO, c -> c.power(2, 0, 0, Clocks.ZERO));
+        Check.refused("power 1000 by 0", ZERO, c -> c.power(2, 0, 1000, Clocks.ZERO));
+    }
+
+    private static void inverseRefuses() {
+        Check.refused("inverse of 6 by 8", ZERO, c -> c.inverse(0, 8, 3));
+        Check.refused("inverse of 0 by 8", ZERO, c -> c.inverse(0, Clocks.ZERO, 3));
+        Check.refused("inverse of 127 by -127", ZERO, c -> c.inverse(0, 4, 5));
+        Check.refused("inverse that is not there into no place", NO_PLACE, c -> c.inverse(12, 8, 3));
+    }
+}
