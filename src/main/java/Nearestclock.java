@@ -298,13 +298,14 @@ public final class Nearestclock {
 
     // Reckoning with whole numbers of eighths.
 
-    /** The calls refuse a divisor of 0 themselves; here it is only kept from the machine. */
+    // The calls refuse a divisor of 0 themselves; here it is only kept from the machine.
+
     private static int quotient(int x, int y) {
         return y == 0 ? 0 : x / y;
     }
 
     private static int cutOf(int x, int y) {
-        return x - quotient(x, y) * y;
+        return y == 0 ? 0 : x % y;
     }
 
     /** The whole number nearest to x / y, the even one of two that are as near. */
@@ -419,9 +420,10 @@ public final class Nearestclock {
             int next = z;
             last = x;
             count = 0;
-            while (next != 0 && count < MOST_RESTS) {
-                int left = restOf(last, next);
-                row[count] = nearest(last, next);
+            while (next != 0 && count < row.length) {
+                int often = nearest(last, next);
+                int left = last - often * next;
+                row[count] = often;
                 count++;
                 last = next;
                 next = left;

@@ -36,6 +36,11 @@ final class Model {
         return Oracle.bits(kept[place]);
     }
 
+    double number(int place) {
+        need(place);
+        return kept[place];
+    }
+
     long rest(int to, int x, int y) {
         need(to, x, y);
         return keep(to, StrictMath.IEEEremainder(kept[x], divisor(y)));
@@ -130,6 +135,9 @@ final class Model {
     }
 
     int digit(int index) {
+        if (index < 0 || index >= row.size()) {
+            throw new IndexOutOfBoundsException();
+        }
         return row.get(index);
     }
 
@@ -153,6 +161,10 @@ final class Model {
 
     long checksum() {
         return Oracle.checksum(kept, row);
+    }
+
+    boolean isTrue() {
+        return true;
     }
 
     private static void need(int... places) {
