@@ -32,11 +32,8 @@ public final class ResiduesTest {
     }
 
     private static void left(String what, Nearestclock clock, long got, double due) {
-        if (got != Oracle.bits(due) || clock.bits(11) != got) {
-            Check.same(what, got, Oracle.bits(due));
-            Check.same("kept by " + what, clock.bits(11), Oracle.bits(due));
-        }
-        Check.isTrue(what, got == Oracle.bits(due));
+        Check.same(what, got, Oracle.bits(due));
+        Check.same("what is kept after " + what, clock.bits(11), Oracle.bits(due));
     }
 
     private static void promise14Residue(double x, double y) {
@@ -114,16 +111,22 @@ public final class ResiduesTest {
 
     private static void intoOneOfTheTwo(double x, double y) {
         int eighths = Oracle.eighths(x);
+        Double inverse = Oracle.inverse(x, y);
         for (int to = 0; to < 2; to++) {
-            Check.same("residue into one of two", Clocks.of(x, y).residue(to, 0, 1), Oracle.bits(Oracle.residue(eighths, y)));
-            Check.same("plus into one of two", Clocks.of(x, y).plus(to, 0, 0, 1), Oracle.bits(Oracle.residue(2 * eighths, y)));
-            Check.same("product into one of two", Clocks.of(x, y).product(to, 0, 1, 1), 0);
-            Check.same("minus into one of two", Clocks.of(x, y).minus(to, 1, 0, 1), Oracle.bits(Oracle.residue(-eighths, y)));
-            Check.same("power into one of two", Clocks.of(x, y).power(to, 0, 5, 1), Oracle.bits(Oracle.power(x, 5, y)));
-            if (Oracle.inverse(x, y) != null) {
-                Check.same("inverse into one of two", Clocks.of(x, y).inverse(to, 0, 1), Oracle.bits(Oracle.inverse(x, y)));
+            into("residue", Clocks.of(x, y).residue(to, 0, 1), Oracle.residue(eighths, y));
+            into("plus", Clocks.of(x, y).plus(to, 0, 0, 1), Oracle.residue(2 * eighths, y));
+            into("minus", Clocks.of(x, y).minus(to, 1, 0, 1), Oracle.residue(-eighths, y));
+            into("many", Clocks.of(x, y).many(to, 9, 0, 1), Oracle.residue(9 * eighths, y));
+            into("product", Clocks.of(x, y).product(to, 0, 0, 1), Oracle.residue(eighths * eighths, y));
+            into("power", Clocks.of(x, y).power(to, 0, 5, 1), Oracle.power(x, 5, y));
+            if (inverse != null) {
+                into("inverse", Clocks.of(x, y).inverse(to, 0, 1), inverse);
             }
         }
+    }
+
+    private static void into(String what, long got, double due) {
+        Check.same(what + " into one of two", got, Oracle.bits(due));
     }
 
     /** Half of y is a residue above 0 and none below; a 0 is the plain one; one eighth by one eighth is 0. */
