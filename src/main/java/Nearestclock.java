@@ -296,9 +296,8 @@ public final class Nearestclock {
         return (eighths < 0 ? SIGN_BIT : 0) | exponent | fraction;
     }
 
-    // Reckoning with whole numbers of eighths.
-
-    // The calls refuse a divisor of 0 themselves; here it is only kept from the machine.
+    // Reckoning with whole numbers of eighths. The calls refuse a divisor of 0 themselves; where one is looked for
+    // here, it is only kept from the machine.
 
     private static int quotient(int x, int y) {
         return y == 0 ? 0 : x / y;
