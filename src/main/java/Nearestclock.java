@@ -270,8 +270,11 @@ public final class Nearestclock {
 
     /** Keeps what is left of x: a 0 has the sign of x. */
     private long keepSigned(int to, int left, int x) {
-        boolean isUnder = held[x] < 0 || isBelow[x];
-        return keep(to, left, left == 0 && isUnder);
+        return keep(to, left, left == 0 && isUnder(x));
+    }
+
+    private boolean isUnder(int place) {
+        return held[place] < 0 || isBelow[place];
     }
 
     private long keepRest(int to, int x, int y) {
@@ -285,9 +288,12 @@ public final class Nearestclock {
     }
 
     private long bitsAt(int place) {
-        int eighths = held[place];
+        return bitsOf(held[place], isBelow[place]);
+    }
+
+    private static long bitsOf(int eighths, boolean isZeroBelow) {
         if (eighths == 0) {
-            return isBelow[place] ? SIGN_BIT : 0;
+            return isZeroBelow ? SIGN_BIT : 0;
         }
         int size = Math.abs(eighths);
         int highest = 31 - Integer.numberOfLeadingZeros(size);
@@ -368,9 +374,13 @@ public final class Nearestclock {
     // What isTrue looks at.
 
     private boolean isTrueBy(int y) {
+        if (!isClockTrue(y)) {
+            return false;
+        }
         for (int place = 0; place < PLACES; place++) {
             int x = held[place];
-            if (!isRestTrue(x, y) || !isResidueTrue(x, y) || !isMeasureTrue(x, y)) {
+            boolean isTrueOfRest = isRestTrue(x, y) && isSignTrue(x, isUnder(place), y);
+            if (!isTrueOfRest || !isResidueTrue(x, y) || !isRingTrue(x, y) || !isMeasureTrue(x, y)) {
                 return false;
             }
         }
@@ -387,24 +397,60 @@ public final class Nearestclock {
         return isNearest && isSame && (added == 0 || added == size);
     }
 
+    /** A rest of 0 has the sign of x, so that the rest of x turned is that rest turned, by its bits as well. */
+    private static boolean isSignTrue(int x, boolean isUnder, int y) {
+        long rest = bitsOf(restOf(x, y), isUnder);
+        long ofTurned = bitsOf(restOf(-x, y), !isUnder);
+        return ofTurned == (rest ^ SIGN_BIT) && (restOf(x, y) != 0 || rest < 0 == isUnder);
+    }
+
+    /** The residues, which alone are their own residue, are as many as y has eighths. */
+    private static boolean isClockTrue(int y) {
+        int size = Math.abs(y);
+        int residues = 0;
+        for (int each = -size; each <= size; each++) {
+            if (residueOf(each, y) == each) {
+                residues++;
+            }
+        }
+        return residues == size;
+    }
+
     private boolean isResidueTrue(int x, int y) {
         int residue = residueOf(x, y);
         int size = Math.abs(y);
         boolean isOnClock = 2 * residue > -size && 2 * residue <= size && cutOf(x - residue, y) == 0;
-        boolean isRing = residueOf(residue + residue, y) == residueOf(x + x, y)
-                && residueOf(residue * residue, y) == residueOf(x * x, y);
         boolean hasInverse = inverseOf(x, y) != NO_RESIDUE;
-        return isOnClock && isRing && hasInverse == (measureOf(x, y) == 1);
+        return isOnClock && hasInverse == (measureOf(x, y) == 1);
+    }
+
+    /** Sums and products of residues, that of x with each, are those of the numbers. */
+    private boolean isRingTrue(int x, int y) {
+        int ofX = residueOf(x, y);
+        for (int place = 0; place < PLACES; place++) {
+            int z = held[place];
+            int ofZ = residueOf(z, y);
+            boolean isSum = residueOf(ofX + ofZ, y) == residueOf(x + z, y);
+            boolean isProduct = residueOf(ofX * ofZ, y) == residueOf(x * z, y);
+            if (!isSum || !isProduct) {
+                return false;
+            }
+        }
+        return true;
     }
 
     private boolean isMeasureTrue(int x, int y) {
         int measure = measureOf(x, y);
-        int above = spare.aboveLine(spare.count);
-        int below = spare.belowLine(spare.count);
+        int count = spare.count;
+        int above = spare.aboveLine(count);
+        int below = spare.belowLine(count);
         boolean isOfBoth = measure > 0 && cutOf(x, measure) == 0 && cutOf(y, measure) == 0;
         boolean isShare = Math.abs(above) * measure == Math.abs(x) && Math.abs(below) * measure == Math.abs(y)
                 && above * y == below * x;
-        return isOfBoth && isShare && spare.last != 0 && spare.isAtEnd;
+        // Whatever divides both numbers of the share divides this: where it is 1 or -1 the share is in lowest terms,
+        // and no measure of x and y is greater.
+        int crossed = above * spare.belowLine(count - 1) - below * spare.aboveLine(count - 1);
+        return isOfBoth && isShare && Math.abs(crossed) == 1 && spare.isAtEnd;
     }
 
     /** The rests that Euclid's algorithm takes, and the whole numbers of them as a continued fraction. */
