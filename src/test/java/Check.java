@@ -1,6 +1,7 @@
 import java.util.Arrays;
 import java.util.List;
 import java.util.function.Consumer;
+import java.util.function.Function;
 
 /** Counts what a test looks at, tells what is wrong, and ends the test's program. */
 final class Check {
@@ -31,15 +32,20 @@ final class Check {
         }
     }
 
-    /** That a call on a filled clock throws just this exception and changes nothing. */
+    /** That a call on a filled clock throws just this exception and changes nothing that any call tells. */
     static void refused(String what, Class<? extends RuntimeException> due, Consumer<Nearestclock> call) {
-        Nearestclock clock = Clocks.filled();
-        refusedBy(clock, what, due, call);
+        refusedBy(Clocks.filled(), what, due, call, Clocks::allTold);
     }
 
+    /** The same on this clock, asked so little that some ten such looks are still within its 512 calls. */
     static void refusedBy(Nearestclock clock, String what, Class<? extends RuntimeException> due,
             Consumer<Nearestclock> call) {
-        List<Long> before = Clocks.allKept(clock);
+        refusedBy(clock, what, due, call, Clocks::allKept);
+    }
+
+    private static void refusedBy(Nearestclock clock, String what, Class<? extends RuntimeException> due,
+            Consumer<Nearestclock> call, Function<Nearestclock, List<Long>> state) {
+        List<Long> before = state.apply(clock);
         Class<?> thrown = null;
         try {
             call.accept(clock);
@@ -47,7 +53,7 @@ final class Check {
             thrown = e.getClass();
         }
         isTrue(what + " throws " + due.getSimpleName() + " (it threw " + thrown + ")", thrown == due);
-        isTrue(what + " changes nothing", before.equals(Clocks.allKept(clock)));
+        isTrue(what + " changes nothing", before.equals(state.apply(clock)));
     }
 
     /** That the call refuses what is no place, at each of its parameters, with good ones and with these others. */
@@ -63,22 +69,6 @@ final class Check {
         int[] none = good.clone();
         Arrays.fill(none, 12);
         refused(what + " of no place at all", IndexOutOfBoundsException.class, clock -> call.on(clock, none));
-    }
-
-    /** That the call, whose last place is the divisor's, refuses both 0s, and before them what is no place. */
-    static void refusesZero(String what, int[] good, Call call) {
-        for (int zero : new int[] {Clocks.ZERO, Clocks.ZERO_BELOW}) {
-            int[] places = good.clone();
-            int last = places.length - 1;
-            places[last] = zero;
-            refused(what + " by the 0 in place " + zero, ArithmeticException.class, clock -> call.on(clock, places));
-            for (int at = 0; at < last; at++) {
-                int[] both = places.clone();
-                both[at] = -1;
-                refused(what + " by 0 and of no place as number " + at, IndexOutOfBoundsException.class,
-                        clock -> call.on(clock, both));
-            }
-        }
     }
 
     static void end(Class<?> test) {

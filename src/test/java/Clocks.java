@@ -7,6 +7,8 @@ final class Clocks {
     static final int LARGEST = 127;
     static final int ZERO = 10;
     static final int ZERO_BELOW = 11;
+    /** Stands for the 0 below where numbers are told by their eighths. */
+    static final int BELOW = Integer.MIN_VALUE;
     private static final int[] FILLING = {100, 37, -12, 8, 127, -127, 1, -1, 6, -64, 0, 0};
 
     private Clocks() {
@@ -68,7 +70,59 @@ final class Clocks {
         return clock;
     }
 
-    /** All that can be told of a clock without changing it; some thirty calls. */
+    /** A clock with these numbers from place 0 on, told by their eighths. */
+    static Nearestclock ofEighths(int... eighths) {
+        Nearestclock clock = new Nearestclock();
+        for (int place = 0; place < eighths.length; place++) {
+            placeEighths(clock, place, eighths[place]);
+        }
+        return clock;
+    }
+
+    static void placeEighths(Nearestclock clock, int place, int eighths) {
+        if (eighths == BELOW) {
+            clock.putBelow(place);
+        } else {
+            clock.put(place, eighths);
+        }
+    }
+
+    static long bitsOf(int eighths) {
+        return Double.doubleToLongBits(eighths == BELOW ? -0.0 : eighths / 8.0);
+    }
+
+    static String nameOf(int eighths) {
+        return eighths == BELOW ? "the 0 below" : eighths + " eighths";
+    }
+
+    /** What every call tells that changes nothing, some 130 of them; the clock is still what it was. */
+    static List<Long> allTold(Nearestclock clock) {
+        List<Long> all = allKept(clock);
+        for (int place = 0; place < PLACES; place++) {
+            all.add((long) clock.eighths(place));
+            all.add(Double.doubleToRawLongBits(clock.number(place)));
+            addOfTwo(clock, place, (place + 1) % PLACES, all);
+        }
+        int digits = digitsOf(clock).size();
+        for (int many = 0; many <= digits; many++) {
+            all.add((long) clock.above(many));
+            all.add((long) clock.below(many));
+        }
+        all.add(clock.isTrue() ? 1L : 0L);
+        return all;
+    }
+
+    private static void addOfTwo(Nearestclock clock, int x, int y, List<Long> all) {
+        all.add((long) clock.steps(x, y));
+        if (clock.eighths(y) != 0) {
+            all.add((long) clock.times(x, y));
+            all.add(clock.isHalf(x, y) ? 1L : 0L);
+            all.add((long) clock.apart(x, y));
+            all.add((long) clock.order(x, y));
+        }
+    }
+
+    /** All that is kept, told in some twenty calls. */
     static List<Long> allKept(Nearestclock clock) {
         List<Long> all = new ArrayList<>();
         for (int place = 0; place < PLACES; place++) {

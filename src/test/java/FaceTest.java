@@ -46,7 +46,7 @@ public final class FaceTest {
         Set<String> namesOfFace = new HashSet<>();
         Set<String> namesInside = new HashSet<>();
         for (Method method : face.getDeclaredMethods()) {
-            if (Modifier.isPrivate(method.getModifiers())) {
+            if (Modifier.isPrivate(method.getModifiers()) || method.isSynthetic()) {
                 namesInside.add(method.getName());
             } else {
                 got.add(lineOf(method));
@@ -89,8 +89,8 @@ public final class FaceTest {
             Check.isTrue(field + " is final if static", Modifier.isFinal(modifiers) || !Modifier.isStatic(modifiers));
         }
         for (Class<?> inside : face.getDeclaredClasses()) {
-            Check.isTrue(inside + " is private", Modifier.isPrivate(inside.getModifiers()));
-            Check.isTrue(inside + " is static", Modifier.isStatic(inside.getModifiers()));
+            int shown = inside.getModifiers() & (Modifier.PUBLIC | Modifier.PROTECTED);
+            Check.isTrue(inside + " is private or package-visible", shown == 0);
         }
     }
 }

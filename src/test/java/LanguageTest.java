@@ -8,13 +8,16 @@ import java.util.regex.Pattern;
 public final class LanguageTest {
     private static final String PROGRAM = "src/main/java/Nearestclock.java";
     private static final String[] RULED_OUT = {
-        "\\bpackage\\b", "\\bimport\\b", "\\bprotected\\b", "\\bDouble\\b", "\\bFloat\\b", "\\bStrictMath\\b",
-        "\\bSystem\\b", "\\bObject\\b", "\\bCharacter\\b", "\\w+Exact\\b", "\\btry\\b", "\\bcatch\\b",
-        "\\bfinally\\b", "\\bsynchronized\\b", "\\bassert\\b", "->", "::", "\\bstatic\\s*\\{", "\\bequals\\b",
-        "\\bhashCode\\b", "\\btoString\\b", "\\bThread\\b", "\\bvolatile\\b", "\\bnative\\b", "@"};
-    private static final Pattern LIBRARY = Pattern.compile("\\b(Math|Integer|Long)\\.(\\w+)");
-    private static final Pattern THROW = Pattern.compile("\\bthrow\\b(?! new (IllegalArgumentException"
-            + "|IndexOutOfBoundsException|ArithmeticException)\\(\"\"\\);)");
+        "\\bpackage\\b", "\\bimport (?!java\\.util\\.(ArrayList|Arrays|Iterator|List|NoSuchElementException);)",
+        "\\bprotected\\b", "\\b(Double|Float|Object|Character|Thread|StrictMath)\\b", "\\bSystem\\.(?!arraycopy\\b)",
+        "\\w+Exact\\b", "\\bfinally\\b", "\\bsynchronized\\b", "\\bvolatile\\b", "\\bnative\\b", "\\bassert\\b",
+        "->", "::", "\\bstatic\\s*\\{", "\\bhashCode\\b", "\\bNaN\\b"};
+    private static final Pattern CATCH = Pattern.compile("\\bcatch\\b(?! \\((IllegalStateException"
+            + "|IllegalArgumentException|IndexOutOfBoundsException|ArithmeticException|UnsupportedOperationException"
+            + "|NoSuchElementException|RuntimeException) )");
+    private static final Pattern THROW = Pattern.compile("\\bthrow\\b(?! new (IllegalStateException"
+            + "|IllegalArgumentException|IndexOutOfBoundsException|ArithmeticException|UnsupportedOperationException"
+            + "|NoSuchElementException|RuntimeException)\\((\"\")?\\);)");
 
     private LanguageTest() {
     }
@@ -25,12 +28,8 @@ public final class LanguageTest {
             Matcher found = Pattern.compile(each).matcher(program);
             Check.isTrue("the program has no " + each, !found.find());
         }
-        Check.isTrue("each throw is a new exception of the document", !THROW.matcher(program).find());
-        Matcher library = LIBRARY.matcher(program);
-        while (library.find()) {
-            boolean isListed = library.group(2).matches("abs|compare|numberOfLeadingZeros");
-            Check.isTrue(library.group() + " is one of the static functions in use", isListed);
-        }
+        Check.isTrue("each throw is a new exception of rule 6", !THROW.matcher(program).find());
+        Check.isTrue("each catch is of an exception of rule 6", !CATCH.matcher(program).find());
         Check.end(LanguageTest.class);
     }
 

@@ -16,10 +16,7 @@ public final class MeasuresTest {
             }
         }
         onePlace();
-        namedEdges();
-        digitsAreMadeAnew();
         onlyDigitsChangesTheRow();
-        refusals();
         Check.end(MeasuresTest.class);
     }
 
@@ -76,36 +73,6 @@ public final class MeasuresTest {
         }
     }
 
-    private static void namedEdges() {
-        Check.same("measure of two 0s below", Clocks.of(-0.0, -0.0).measure(0, 0, 1), 0);
-        Check.same("measure of -3 and the 0 below", Clocks.of(-3, -0.0).measure(2, 0, 1), Oracle.bits(3));
-        Check.same("measure of the 0 below and -3", Clocks.of(-0.0, -3).measure(2, 0, 1), Oracle.bits(3));
-        Check.same("steps of 5 and 0", Clocks.of(5, 0).steps(0, 1), 0);
-        Check.same("steps of 5 and the 0 below", Clocks.of(5, -0.0).steps(0, 1), 0);
-        Check.same("steps of 0 and 5", Clocks.of(-0.0, 5).steps(0, 1), 1);
-        Nearestclock clock = Clocks.of(100 / 8.0, 37 / 8.0);
-        int[] digits = {3, -3, -3, 4};
-        int[] above = {1, 3, -8, 27, 100};
-        int[] below = {0, 1, -3, 10, 37};
-        Check.same("digits of 100 and 37", clock.digits(0, 1), 4);
-        for (int index = 0; index < 4; index++) {
-            Check.same("digit " + index + " of 100 and 37", clock.digit(index), digits[index]);
-        }
-        for (int many = 0; many <= 4; many++) {
-            Check.same("above(" + many + ") of 100 and 37", clock.above(many), above[many]);
-            Check.same("below(" + many + ") of 100 and 37", clock.below(many), below[many]);
-        }
-    }
-
-    private static void digitsAreMadeAnew() {
-        Nearestclock clock = Clocks.filled();
-        Check.same("digits once more", clock.digits(4, 6), 1);
-        Check.same("the one digit", clock.digit(0), 127);
-        Check.refusedBy(clock, "digit(1) of one", NONE, c -> c.digit(1));
-        Check.same("digits once more", clock.digits(0, 1), 4);
-        Check.same("the digits", Clocks.digitsOf(clock).size(), 4);
-    }
-
     private static void onlyDigitsChangesTheRow() {
         Nearestclock clock = Clocks.filled();
         List<Long> row = Clocks.digitsOf(clock);
@@ -121,21 +88,5 @@ public final class MeasuresTest {
         Check.isTrue("the row of digits stays", row.equals(Clocks.digitsOf(clock)));
         Check.same("above of the row that stays", clock.above(4), 100);
         Check.same("below of the row that stays", clock.below(4), 37);
-    }
-
-    private static void refusals() {
-        Check.refusesNoPlaces("measure", new int[] {2, 0, 1}, (c, p) -> c.measure(p[0], p[1], p[2]));
-        Check.refusesNoPlaces("measure of 0s", new int[] {2, 10, 11}, (c, p) -> c.measure(p[0], p[1], p[2]));
-        Check.refusesNoPlaces("steps", new int[] {0, 1}, (c, p) -> c.steps(p[0], p[1]));
-        Check.refusesNoPlaces("steps of 0s", new int[] {10, 11}, (c, p) -> c.steps(p[0], p[1]));
-        Check.refusesNoPlaces("digits", new int[] {2, 3}, (c, p) -> c.digits(p[0], p[1]));
-        Check.refusesZero("digits", new int[] {2, 3}, (c, p) -> c.digits(p[0], p[1]));
-        for (int index : new int[] {-1, 4, 5, 7, Integer.MIN_VALUE, Integer.MAX_VALUE}) {
-            Check.refused("digit(" + index + ")", NONE, c -> c.digit(index));
-        }
-        for (int many : new int[] {-1, 5, 6, 8, Integer.MIN_VALUE, Integer.MAX_VALUE}) {
-            Check.refused("above(" + many + ")", NONE, c -> c.above(many));
-            Check.refused("below(" + many + ")", NONE, c -> c.below(many));
-        }
     }
 }

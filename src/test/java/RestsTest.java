@@ -1,7 +1,5 @@
-/** Promises 8 to 13: every number of the set by every divisor of it. */
+/** Promises 8 to 13: every number of the set by every divisor of it, against the library's own remainders. */
 public final class RestsTest {
-    private static final int[] GOOD = {2, 0, 1};
-
     private RestsTest() {
     }
 
@@ -18,8 +16,6 @@ public final class RestsTest {
         }
         allIntoOneOfTheTwo();
         ofANumberByItself();
-        namedEdges();
-        refusals();
         Check.end(RestsTest.class);
     }
 
@@ -91,37 +87,5 @@ public final class RestsTest {
             Check.same("apart of " + x + " by itself", clock.apart(0, 0), 0);
             Check.same("rest of " + x + " by itself", clock.rest(0, 0, 0), Oracle.bits(x < 0 ? -0.0 : 0.0));
         }
-    }
-
-    /** The cases that the terms name, in plain figures: the even one of two, and the sign of a 0. */
-    private static void namedEdges() {
-        int[][] xYTimesRest = {{20, 8, 2, 4}, {12, 8, 2, -4}, {-12, 8, -2, 4}, {12, -8, -2, -4}, {-20, -8, 2, -4},
-                {4, 8, 0, 4}, {-4, 8, 0, -4}, {127, -127, -1, 0}, {127, 1, 127, 0}, {-127, 2, -64, 1}, {1, 127, 0, 1}};
-        for (int[] each : xYTimesRest) {
-            double x = each[0] / 8.0;
-            double y = each[1] / 8.0;
-            Nearestclock clock = Clocks.of(x, y);
-            Check.same(by("times", x, y), clock.times(0, 1), each[2]);
-            clock.rest(2, 0, 1);
-            Check.same(by("rest", x, y), clock.eighths(2), each[3]);
-        }
-        Check.same("rest of the 0 below", Clocks.of(-0.0, 1).rest(2, 0, 1), Long.MIN_VALUE);
-        Check.same("rest of the plain 0", Clocks.of(0.0, -1).rest(2, 0, 1), 0);
-        Check.same("cut of -3 by -1", Clocks.of(-3, -1).cut(2, 0, 1), Long.MIN_VALUE);
-        Check.same("cut of 3 by -1", Clocks.of(3, -1).cut(2, 0, 1), 0);
-    }
-
-    private static void refusals() {
-        refusals("rest", GOOD, (c, p) -> c.rest(p[0], p[1], p[2]));
-        refusals("restToo", GOOD, (c, p) -> c.restToo(p[0], p[1], p[2]));
-        refusals("times", new int[] {0, 1}, (c, p) -> c.times(p[0], p[1]));
-        refusals("isHalf", new int[] {0, 1}, (c, p) -> c.isHalf(p[0], p[1]));
-        refusals("cut", GOOD, (c, p) -> c.cut(p[0], p[1], p[2]));
-        refusals("apart", new int[] {0, 1}, (c, p) -> c.apart(p[0], p[1]));
-    }
-
-    private static void refusals(String what, int[] good, Check.Call call) {
-        Check.refusesNoPlaces(what, good, call);
-        Check.refusesZero(what, good, call);
     }
 }

@@ -2,32 +2,17 @@ import java.util.ArrayList;
 import java.util.Arrays;
 import java.util.List;
 
-/** Promises 28 to 30. */
+/** Promises 29 and 30: every two numbers of the set. */
 public final class WholeTest {
     private WholeTest() {
     }
 
     public static void main(String[] args) {
-        promise28Sum();
         promise29Checksum();
         promise29ChecksumOfDigits();
         promise30IsTrueOfAllTwo();
-        promise30IsTrueOfManyAndChangesNothing();
+        promise30IsTrueOfMany();
         Check.end(WholeTest.class);
-    }
-
-    private static void promise28Sum() {
-        Check.same("sum of a filled clock", Clocks.filled().sum(), 75);
-        for (int eighths : new int[] {127, -127}) {
-            Nearestclock clock = new Nearestclock();
-            for (int place = 0; place < Clocks.PLACES; place++) {
-                clock.put(place, eighths);
-                Check.same("sum", clock.sum(), (place + 1) * eighths);
-            }
-        }
-        Nearestclock clock = new Nearestclock();
-        clock.putBelow(0);
-        Check.same("sum with the 0 below", clock.sum(), 0);
     }
 
     private static void promise29Checksum() {
@@ -65,11 +50,8 @@ public final class WholeTest {
         }
     }
 
-    private static void promise30IsTrueOfManyAndChangesNothing() {
-        Nearestclock clock = Clocks.filled();
-        List<Long> before = Clocks.allKept(clock);
-        Check.isTrue("isTrue of a filled clock", clock.isTrue());
-        Check.isTrue("isTrue changes nothing", before.equals(Clocks.allKept(clock)));
+    private static void promise30IsTrueOfMany() {
+        Nearestclock clock = new Nearestclock();
         for (int first = -Clocks.LARGEST; first <= Clocks.LARGEST - 22; first++) {
             for (int place = 0; place < Clocks.PLACES; place++) {
                 clock.put(place, first + 2 * place);
