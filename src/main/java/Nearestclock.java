@@ -380,7 +380,7 @@ public final class Nearestclock {
         for (int place = 0; place < PLACES; place++) {
             int x = held[place];
             boolean isTrueOfRest = isRestTrue(x, y) && isSignTrue(x, isUnder(place), y);
-            if (!isTrueOfRest || !isResidueTrue(x, y) || !isRingTrue(x, y) || !isMeasureTrue(x, y)) {
+            if (!isTrueOfRest || !isResidueTrue(x, y) || !isRingTrue(place, y) || !isMeasureTrue(x, y)) {
                 return false;
             }
         }
@@ -424,10 +424,11 @@ public final class Nearestclock {
         return isOnClock && hasInverse == (measureOf(x, y) == 1);
     }
 
-    /** Sums and products of residues, that of x with each, are those of the numbers. */
-    private boolean isRingTrue(int x, int y) {
+    /** Sums and products of residues are those of the numbers: of two places once, in one order. */
+    private boolean isRingTrue(int first, int y) {
+        int x = held[first];
         int ofX = residueOf(x, y);
-        for (int place = 0; place < PLACES; place++) {
+        for (int place = first; place < PLACES; place++) {
             int z = held[place];
             int ofZ = residueOf(z, y);
             boolean isSum = residueOf(ofX + ofZ, y) == residueOf(x + z, y);

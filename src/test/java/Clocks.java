@@ -91,6 +91,11 @@ final class Clocks {
         return Double.doubleToLongBits(eighths == BELOW ? -0.0 : eighths / 8.0);
     }
 
+    /** The bits of the number itself, which need not be those that the clock tells. */
+    static long rawOf(Nearestclock clock, int place) {
+        return Double.doubleToRawLongBits(clock.number(place));
+    }
+
     static String nameOf(int eighths) {
         return eighths == BELOW ? "the 0 below" : eighths + " eighths";
     }
@@ -100,7 +105,7 @@ final class Clocks {
         List<Long> all = allKept(clock);
         for (int place = 0; place < PLACES; place++) {
             all.add((long) clock.eighths(place));
-            all.add(Double.doubleToRawLongBits(clock.number(place)));
+            all.add(rawOf(clock, place));
             addOfTwo(clock, place, (place + 1) % PLACES, all);
         }
         int digits = digitsOf(clock).size();

@@ -41,8 +41,10 @@ public final class MeasuresEdgesTest {
     private static void measure(int x, int z, int due) {
         String what = "promise 22: measure of " + Clocks.nameOf(x) + " and " + Clocks.nameOf(z);
         Nearestclock clock = Clocks.ofEighths(x, z);
+        clock.putBelow(11);
         Check.same(what, clock.measure(11, 0, 1), Clocks.bitsOf(due));
         Check.same(what + ": kept", clock.bits(11), Clocks.bitsOf(due));
+        Check.same(what + ": itself", Clocks.rawOf(clock, 11), Clocks.bitsOf(due));
         Check.same(what + " the other way round", clock.measure(11, 1, 0), Clocks.bitsOf(due));
     }
 

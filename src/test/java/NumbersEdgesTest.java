@@ -37,7 +37,7 @@ public final class NumbersEdgesTest {
         for (int place = 0; place <= 11; place++) {
             Check.same("promise 1: bits of place " + place, clock.bits(place), PLAIN_0);
             Check.same("promise 1: eighths of place " + place, clock.eighths(place), 0);
-            Check.same("promise 1: number of place " + place, raw(clock, place), PLAIN_0);
+            Check.same("promise 1: number of place " + place, Clocks.rawOf(clock, place), PLAIN_0);
             Check.same("promise 1: what was in place " + place, clock.put(place, 1), PLAIN_0);
         }
         Check.same("promise 1: sum", new Nearestclock().sum(), 0);
@@ -97,6 +97,7 @@ public final class NumbersEdgesTest {
             Nearestclock clock = Clocks.ofEighths(each);
             clock.put(0, 0);
             Check.same("promise 2: 0 over " + Clocks.nameOf(each), clock.bits(0), PLAIN_0);
+            Check.same("promise 2: 0 itself over " + Clocks.nameOf(each), Clocks.rawOf(clock, 0), PLAIN_0);
         }
     }
 
@@ -146,8 +147,10 @@ public final class NumbersEdgesTest {
             clock.put(place, 127);
             clock.turn(place);
             Check.same("promise 4: the most turned", clock.bits(place), LEAST);
+            Check.same("promise 4: the most turned, itself", Clocks.rawOf(clock, place), LEAST);
             clock.turn(place);
             Check.same("promise 4: the least turned", clock.bits(place), MOST);
+            Check.same("promise 4: the least turned, itself", Clocks.rawOf(clock, place), MOST);
             Check.same("promise 4: a place beside it", clock.bits(place == 0 ? 1 : 10), PLAIN_0);
         }
     }
@@ -196,8 +199,8 @@ public final class NumbersEdgesTest {
 
     /** Promise 7: "Tells a number itself", of both 0s: "the 0 below, which is 0 but for its sign (the double -0.0)". */
     private static void promise7BothZeros() {
-        Check.same("promise 7: of the plain 0", raw(Clocks.ofEighths(0), 0), PLAIN_0);
-        Check.same("promise 7: of the 0 below", raw(Clocks.ofEighths(Clocks.BELOW), 0), BELOW_0);
+        Check.same("promise 7: of the plain 0", Clocks.rawOf(Clocks.ofEighths(0), 0), PLAIN_0);
+        Check.same("promise 7: of the 0 below", Clocks.rawOf(Clocks.ofEighths(Clocks.BELOW), 0), BELOW_0);
         Check.isTrue("promise 7: the 0 below is 0", Clocks.ofEighths(Clocks.BELOW).number(0) == 0);
     }
 
@@ -207,9 +210,5 @@ public final class NumbersEdgesTest {
         Check.isTrue("promise 7: of the least", Clocks.ofEighths(-127).number(0) == -15.875);
         Check.isTrue("promise 7: of one eighth", Clocks.ofEighths(1).number(0) == 0.125);
         Check.isTrue("promise 7: of one eighth below 0", Clocks.ofEighths(-1).number(0) == -0.125);
-    }
-
-    private static long raw(Nearestclock clock, int place) {
-        return Double.doubleToRawLongBits(clock.number(place));
     }
 }

@@ -42,6 +42,7 @@ public final class ResiduesEdgesTest {
         promise21OneTo127();
         promises14To20IntoAnyPlace();
         termsSumsAndProductsOfResidues();
+        termsEveryNumberIsOfTheSet();
         Check.end(ResiduesEdgesTest.class);
     }
 
@@ -50,12 +51,14 @@ public final class ResiduesEdgesTest {
         long by(Nearestclock clock, int y);
     }
 
-    /** Looks at the answer and at what is kept in place 11, by the divisor in place 2 and by that turned. */
+    /** Looks at the answer and what is kept over a 0 below, by the divisor in place 2 and by that turned. */
     private static void leaves(String what, Nearestclock clock, Answer call, int due) {
         int y = clock.eighths(2);
         for (int turns = 0; turns < 2; turns++) {
+            clock.putBelow(11);
             Check.same(what + " by " + clock.eighths(2), call.by(clock, 2), Clocks.bitsOf(due));
             Check.same(what + " by " + clock.eighths(2) + ": kept", clock.bits(11), Clocks.bitsOf(due));
+            Check.same(what + " by " + clock.eighths(2) + ": itself", Clocks.rawOf(clock, 11), Clocks.bitsOf(due));
             clock.turn(2);
         }
         Check.same(what + ": y", clock.eighths(2), y);
@@ -489,5 +492,30 @@ public final class ResiduesEdgesTest {
                 }
             }
         }
+    }
+
+    /** "The set.": "Every number that is told or kept is of the set.", where what is reckoned with is far outside. */
+    private static void termsEveryNumberIsOfTheSet() {
+        int[] ends = {127, -127, 126, -126, 125, -64, 63, 2, 1, -1};
+        for (int x : ends) {
+            for (int z : ends) {
+                for (int y : ends) {
+                    Nearestclock clock = Clocks.ofEighths(x, z, y);
+                    isOfTheSet("sum", clock, clock.plus(11, 0, 1, 2));
+                    isOfTheSet("difference", clock, clock.minus(11, 0, 1, 2));
+                    isOfTheSet("many", clock, clock.many(11, MOST, 0, 2));
+                    isOfTheSet("many below 0", clock, clock.many(11, LEAST, 0, 2));
+                    isOfTheSet("product", clock, clock.product(11, 0, 1, 2));
+                    isOfTheSet("power", clock, clock.power(11, 0, 1000, 2));
+                }
+            }
+        }
+    }
+
+    private static void isOfTheSet(String what, Nearestclock clock, long told) {
+        int eighths = clock.eighths(11);
+        Check.isTrue(what + " from -127 to 127", eighths >= -127 && eighths <= 127);
+        Check.same(what + " told", told, Clocks.bitsOf(eighths));
+        Check.same(what + " kept", Clocks.rawOf(clock, 11), Clocks.bitsOf(eighths));
     }
 }

@@ -7,7 +7,8 @@ import java.util.List;
 public final class RestsEdgesTest {
     private static final int BELOW = Clocks.BELOW;
     private static final List<Remainder> BOTH_RESTS = List.of(
-            new Remainder("promise 8 rest", Nearestclock::rest), new Remainder("promise 9 restToo", Nearestclock::restToo));
+            new Remainder("promise 8 rest", Nearestclock::rest),
+            new Remainder("promise 9 restToo", Nearestclock::restToo));
     private static final Remainder CUT = new Remainder("promise 12 cut", Nearestclock::cut);
 
     /** A call that puts what is left of x by y into a place. */
@@ -16,12 +17,15 @@ public final class RestsEdgesTest {
     }
 
     private record Remainder(String name, Left call) {
-        /** Looks at the answer, what is kept, and that x and y stay. */
+        /** Looks at the answer, what is kept over either 0, and that x and y stay. */
         void leaves(int x, int y, int due) {
             String what = name + " of " + Clocks.nameOf(x) + " by " + y;
-            Nearestclock clock = Clocks.ofEighths(x, y);
-            Check.same(what, call.of(clock, 11, 0, 1), Clocks.bitsOf(due));
-            Check.same(what + ": kept", clock.bits(11), Clocks.bitsOf(due));
+            Nearestclock clock = Clocks.ofEighths(x, y, 0, BELOW);
+            for (int to = 2; to < 4; to++) {
+                Check.same(what, call.of(clock, to, 0, 1), Clocks.bitsOf(due));
+                Check.same(what + ": kept", clock.bits(to), Clocks.bitsOf(due));
+                Check.same(what + ": itself", Clocks.rawOf(clock, to), Clocks.bitsOf(due));
+            }
             Check.same(what + ": x", clock.bits(0), Clocks.bitsOf(x));
             Check.same(what + ": y", clock.bits(1), Clocks.bitsOf(y));
         }

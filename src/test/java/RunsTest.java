@@ -10,7 +10,8 @@ import java.util.Random;
 /** Long runs of calls of all promises together, each answer and all that is kept compared with the model's. */
 public final class RunsTest {
     private static final int RUNS = 3000;
-    // Each step is a call and a checksum: an object's answers are promised for 512 calls.
+    // Each step is a call and a checksum. The document: "An object is used for at most 512 calls after it has been
+    // made": the last of them is still looked at.
     private static final int STEPS = 256;
     private static final int PUTS_AHEAD = 8;
     private static final int[] EDGES = {-128, -127, -1, 0, 1, 126, 127, 128, Integer.MIN_VALUE, Integer.MAX_VALUE};
